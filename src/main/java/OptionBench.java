@@ -1170,9 +1170,8 @@ public final class OptionBench {
         private void fillPrices() {
             int lowest = market.start;
             for (int t = 0; t <= market.steps; t++) {
-                if (t > 0) {
-                    lowest -= market.falls[t];
-                }
+                // The start has no FALL: its place in the row is 0.
+                lowest -= market.falls[t];
                 int coming = market.cashFrom(t);
                 for (int j = 0; j <= t; j++) {
                     int node = nodeAt(t, j);

@@ -175,6 +175,19 @@ public final class PromiseTest {
         fine("cash 1;step 1;cash 99;step 1 times 11;cash 5;", 0);
         fine("stock 12 2;step 1 times 12;", 0);
         fine("option a digit 007 01;", 1);
+        // As many tokens as there can be.
+        faulty(blanks(500).replace(' ', ';'), 1, 0);
+        faulty(blanks(500).replace(' ', '!'), 1, 0);
+        // Nothing of an earlier text is left.
+        OptionBench y = of("stock 100 3;cash 5;step 2 times 12;cash 7;option a call 5 any out above 3 rebate 4 recall 5;");
+        feed(y, "step 1 times 12;option b put 9;");
+        is(y.bench(), 1);
+        is(y.count(4), 0);
+        is(y.step(12, 0), 1);
+        is(y.option(0, 3), 12);
+        is(y.option(0, 4), 0);
+        is(y.option(0, 7), 0);
+        is(y.option(0, 9), NONE);
     }
 
     static void promise5Kinds() {
@@ -198,6 +211,8 @@ public final class PromiseTest {
         faulty("cash 1;stock 5 5;", 1, 7);
         faulty("stock 5 5;stock 5 5;", 1, 10);
         faulty("stock 5;", 1, 7);
+        faulty("stock ;", 1, 6);
+        faulty("stock ;step 1;", 1, 6);
         faulty("option abcdefghi call 5;", 1, 7);
         faulty("option a1 call 5;", 1, 7);
         faulty("option 5 call 5;", 1, 7);
@@ -630,6 +645,33 @@ public final class PromiseTest {
         is(x.gain(0, 3, 0, 0), 1);
     }
 
+    /** The longest paths, where the rows have no place to spare. */
+    static void promise21Longest() {
+        String text = "stock 60 5;cash 2;step 2 times 6;cash 3;step 3 times 6;option a put 62 any recall 2;"
+            + "option b call 58 from 3 in above 70;option c either 61 any out below 50 rebate 4;";
+        OptionBench x = of(text);
+        Model m = new Model();
+        m.tape = text.getBytes(StandardCharsets.ISO_8859_1);
+        is(m.bench(), 3);
+        for (int k = 0; k < 3; k++) {
+            is(x.richest(k, NONE), m.richest(k, NONE));
+            is(x.richest(k, 7), m.richest(k, 7));
+            is(x.life(k, 0), m.life(k, 0));
+            for (int path = 0; path < 4096; path += 91) {
+                for (int e = NONE; e <= 12; e += 13) {
+                    is(x.gain(k, path, e, 0), m.gain(k, path, e, 0));
+                    is(x.gain(k, path, e, 1), m.gain(k, path, e, 1));
+                }
+            }
+            for (int t = 0; t <= 12; t++) {
+                is(x.frontier(k, t), m.frontier(k, t));
+                is(x.ways(k, t, t / 2), m.ways(k, t, t / 2));
+            }
+            int upper = k % 2;
+            is(x.worthBy(k, 60, upper, 0), m.worthBy(k, 60, upper, 0));
+        }
+    }
+
     static void promise21() {
         OptionBench x = of(PLAIN);
         is(x.richest(0, NONE), 3);
@@ -885,6 +927,9 @@ public final class PromiseTest {
         is(x.move(999), 0);
         is(x.move(LOW), NONE);
         is(x.count(5), 3);
+        is(of("").move(0), 0);
+        is(of("step 1;").move(0), NONE);
+        is(of("step 1;").move(1), 0);
     }
 
     static void promise32() {
