@@ -862,9 +862,7 @@ public final class OptionBench {
             draft.clear();
             at = 0;
             if (length > MOST_TEXT) {
-                faultKind = 1;
-                faultPlace = MOST_TEXT;
-                return false;
+                return failsAt(1, MOST_TEXT);
             }
             tokens.scan(length);
             for (int line = 0; !isNext(Tokens.AT_END) && line <= length; line++) {
@@ -880,8 +878,12 @@ public final class OptionBench {
         }
 
         private boolean fails(int kind) {
+            return failsAt(kind, tokens.places[at]);
+        }
+
+        private boolean failsAt(int kind, int place) {
             faultKind = kind;
-            faultPlace = tokens.places[at];
+            faultPlace = place;
             return false;
         }
 
@@ -894,7 +896,7 @@ public final class OptionBench {
         }
 
         private void pass() {
-            if (!isNext(Tokens.AT_END)) {
+            if (tokens.kinds[at] != Tokens.AT_END) {
                 at++;
             }
         }
@@ -946,9 +948,7 @@ public final class OptionBench {
                 times = number;
             }
             if (draft.lowest() - fallOfEach * times < 0) {
-                faultKind = 2;
-                faultPlace = numberPlace;
-                return false;
+                return failsAt(2, numberPlace);
             }
             draft.addSteps(fallOfEach, times);
             return true;
@@ -977,7 +977,7 @@ public final class OptionBench {
             if (!readNewName(k)) {
                 return false;
             }
-            if (!readKind(c) || !readWhen(c) || !readBarrier(c) || !readRecall(c)) {
+            if (!readKind(c) || !readWhen(c) || !readBarrier(c) || !readRebate(c) || !readRecall(c)) {
                 return false;
             }
             draft.options = k + 1;
@@ -1070,11 +1070,11 @@ public final class OptionBench {
                 return false;
             }
             c.level = number;
-            return !goesOut || readRebate(c);
+            return true;
         }
 
         private boolean readRebate(Contract c) {
-            if (isKeyword(Tokens.REBATE)) {
+            if (c.barrier == OUT && isKeyword(Tokens.REBATE)) {
                 pass();
                 if (!readNumber(0, 99)) {
                     return false;
