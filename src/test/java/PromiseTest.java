@@ -1,103 +1,12 @@
-import java.lang.reflect.InvocationTargetException;
-import java.lang.reflect.Method;
+import java.io.IOException;
 import java.nio.charset.StandardCharsets;
-import java.util.Arrays;
-import java.util.NoSuchElementException;
 
 /** Each promise of the document by hand: ordinary inputs, its edges, wrong inputs. */
-public final class PromiseTest {
-    private static final int NONE = OptionBench.NONE;
-    private static final int HIDDEN = OptionBench.HIDDEN;
-    private static final int FAR = Integer.MAX_VALUE;
-    private static final int LOW = Integer.MIN_VALUE;
-
-    /** STRIPPED 10; 8, 12; 6, 10, 14; up and down are weighed alike. */
-    private static final String LATTICE = "stock 10 4;step 2 times 2;";
+public final class PromiseTest extends Checks {
     private static final String PLAIN = LATTICE + "option c call 9;option p put 11 any;"
         + "option d digit 12 6 from 1;option s either 10 any recall 1;";
     private static final String BARRED = LATTICE + "option o call 8 out above 14 rebate 1;"
         + "option i call 8 any in above 12;option v over o 1 any;option q call 8 out above 12 rebate 1;";
-
-    private interface Call {
-        long answer();
-    }
-
-    private static String promise = "";
-    private static int wrong = 0;
-
-    private static void is(long got, long due) {
-        if (got != due) {
-            wrong++;
-            StackTraceElement[] trace = new Throwable().getStackTrace();
-            int at = trace[1].getMethodName().startsWith("promise") ? 1 : 2;
-            System.out.println(promise + ", line " + trace[at].getLineNumber() + ": answered " + got + ", due is " + due);
-        }
-    }
-
-    private static void is(boolean got, boolean due) {
-        is(got ? 1 : 0, due ? 1 : 0);
-    }
-
-    private static void missing(Call call) {
-        boolean thrown = false;
-        try {
-            call.answer();
-        } catch (NoSuchElementException e) {
-            thrown = true;
-        }
-        is(thrown, true);
-    }
-
-    private static void feed(OptionBench x, String text) {
-        byte[] bytes = text.getBytes(StandardCharsets.ISO_8859_1);
-        int before = x.count(6);
-        byte[] padded = Arrays.copyOf(bytes, (bytes.length + 19) / 20 * 20);
-        for (int i = 0; i < padded.length; i += 20) {
-            int[] n = new int[5];
-            for (int b = 0; b < 20; b++) {
-                n[b / 4] = n[b / 4] << 8 | padded[i + b] & 255;
-            }
-            x.feed(n[0], n[1], n[2], n[3], n[4]);
-        }
-        x.end(before + bytes.length);
-    }
-
-    private static OptionBench of(String text) {
-        OptionBench x = new OptionBench();
-        feed(x, text);
-        if (x.bench() < 0) {
-            throw new IllegalArgumentException(text);
-        }
-        return x;
-    }
-
-    private static void faulty(String text, int kind, int place) {
-        OptionBench x = of(PLAIN);
-        feed(x, text);
-        long got = x.bench();
-        if (got != -1000 - place || x.fault() != kind) {
-            wrong++;
-            System.out.println(promise + ": '" + text + "' has FAULT " + x.fault() + " at " + (-1000 - got) + ", due is "
-                + kind + " at " + place);
-        }
-        is(x.count(1), 4);
-    }
-
-    private static void fine(String text, int options) {
-        OptionBench x = new OptionBench();
-        feed(x, text);
-        int got = x.bench();
-        if (got != options || x.fault() != 0) {
-            wrong++;
-            System.out.println(promise + ": '" + text + "' answered " + got + ", due is " + options);
-        }
-    }
-
-    private static String blanks(int n) {
-        char[] all = new char[n];
-        Arrays.fill(all, ' ');
-        return new String(all);
-    }
 
     // ---- the tape and the BENCH ----
 
@@ -1087,22 +996,7 @@ public final class PromiseTest {
         is(x.option(0, 8), 1);
     }
 
-    public static void main(String[] args) throws IllegalAccessException {
-        for (Method method : PromiseTest.class.getDeclaredMethods()) {
-            if (!method.getName().startsWith("promise") || method.getParameterCount() != 0) {
-                continue;
-            }
-            promise = method.getName();
-            try {
-                method.invoke(null);
-            } catch (InvocationTargetException e) {
-                wrong++;
-                System.out.println(promise + " broke off: " + e.getCause());
-            }
-        }
-        System.out.println(wrong == 0 ? "all promises are kept" : wrong + " answers are not as promised");
-        if (wrong != 0) {
-            System.exit(1);
-        }
+    public static void main(String[] args) throws IllegalAccessException, IOException {
+        runAll(PromiseTest.class);
     }
 }
