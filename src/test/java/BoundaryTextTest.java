@@ -592,9 +592,10 @@ public final class BoundaryTextTest extends Checks {
     @Says("The tape (empty then, with a FAULT, too) is the BENCH now")
     static void nothingIsLeftOfTheBenchBefore() {
         OptionBench x = of("stock 99 9;cash 5;" + "step 1;cash 7;".repeat(12)
-            + "option a put 999 any out below 3 rebate 4 recall 5;option b digit 999 8 any;");
+            + "option a put 999 any out below 3 rebate 4 recall 5;option b put 999 any recall 1;");
         is(x.does(0, 12, 12), 1);
         is(x.does(0, 0, 0), 4);
+        is(x.does(1, 0, 0), 4);
         feed(x, "step 1 times 12;option b put 200;option c put 200 any in above 500;");
         is(x.bench(), 2);
         is(x.count(2), 2);
