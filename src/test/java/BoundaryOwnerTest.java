@@ -405,6 +405,37 @@ public final class BoundaryOwnerTest extends Checks {
         is(x.bestBy(1, 0), 1296);
     }
 
+    @Says("The n for which that is most")
+    static void bestByAskedAgain() {
+        // PRICES 13; 11, 15; 6, 10, 14: by 0 both are worth 5; one 13 by 2 by 11, 8 from 13 on, the other 8 from 15 on.
+        OptionBench x = of("stock 10 4;step 2;cash 3;step 2;option a call 5 any;option b call 5 from 1;");
+        for (int round = 0; round < 3; round++) {
+            is(x.bestBy(0, 0), 13);
+            is(x.bestBy(1, 0), 15);
+            is(x.bestBy(1, 0), 15);
+            is(x.bestBy(1, 1), 0);
+        }
+        // What was found on greater benches ahead is not in the way.
+        OptionBench y = new OptionBench();
+        for (int first = 100; first <= 500; first += 100) {
+            feed(y, "stock " + first + " 9;step 1 times 12;option a put 999 any;");
+            is(y.bench(), 1);
+            is(y.bestBy(0, 1), 0);
+        }
+        feed(y, LATTICE + "option a spread 9 12 any;");
+        is(y.bench(), 1);
+        is(y.bestBy(0, 1), 11);
+    }
+
+    @Says("The n for which that is most")
+    static void bestByForTheLeastPay() {
+        // At the start the other one is worth 1 by 4; held on, what is over it goes OUT at 102.
+        OptionBench x = of("step 1 times 2;option a digit 102 1;option b over a 0 any out above 102;");
+        fraction(part -> x.worthBy(1, 99, 0, part), 0, 1);
+        fraction(part -> x.worthBy(1, 100, 0, part), 1, 4);
+        is(x.bestBy(1, 0), 100);
+    }
+
     @Says("of like ones the least; NONE: no such ones")
     static void bestByOutside() {
         OptionBench x = option("call 8");

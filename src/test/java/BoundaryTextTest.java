@@ -310,6 +310,7 @@ public final class BoundaryTextTest extends Checks {
         faulty("option b call 5;option a call 5;option c call 5;option b", 3, 55);
         fine("option a call 5;option aa call 5;option aaaaaaaa put 5;option aaaaaaab put 5;", 4);
         fine("option ab call 5;option ba call 5;option b put 5;option az put 5;", 4);
+        fine("option b call 5;option bb call 5;option ba put 5;option a put 5;", 4);
     }
 
     // ---- Terms: numbers, words, blanks ----
